@@ -96,7 +96,7 @@ public final class MapPieces {
             case 4: return chargeAhead();
             case 5: return chargeBehind();
             case 6: return Integer.bitCount(positiveSpots());
-            case 7: return openSpots();
+            case 7: return openSpots(positiveSpots(), reduciblePieces());
             case 8: return planner.laidEver;
             case 9: return planner.lying;
             case 10: return planner.lastOff;
@@ -149,7 +149,8 @@ public final class MapPieces {
 
     public int named(int piece, int colours) throws NoSuchElementException {
         Ring ring = ringOf(pieceAt(piece));
-        return ring.find(ring.codeOfDigits(colours));
+        int code = ring.codeOfDigits(colours);
+        return code == NONE ? NONE : ring.find(ring.renamed(code));
     }
 
     public int level(int piece, int colouring) throws NoSuchElementException {
@@ -175,7 +176,7 @@ public final class MapPieces {
             throw new NoSuchElementException();
         }
         int many = ring.split(code, pairing);
-        return what == 0 ? many : Ring.fenceCount(Ring.pairsOf(many));
+        return what == 0 ? many : Ring.fenceCount(many);
     }
 
     public int switched(int piece, int colouring, int pairing, int runs)
@@ -189,7 +190,7 @@ public final class MapPieces {
         if (runs >>> many != 0) {
             throw new IllegalArgumentException();
         }
-        return ring.find(ring.turned(code, pairing, runs));
+        return ring.find(ring.renamed(ring.turned(code, pairing, runs)));
     }
 
     public int set(int piece, int what, int word) throws NoSuchElementException {
@@ -326,12 +327,12 @@ public final class MapPieces {
     public int solve(int spot) throws NoSuchElementException {
         checkSpot(spot);
         search.begin(current, state.paints);
-        return search.firstWay(0) ? search.work.colourAt(spot) : NONE;
+        return search.paintAll() ? search.work.colourAt(spot) : NONE;
     }
 
     public int ways() {
         search.begin(current, state.paints);
-        return search.countWays(0);
+        return search.allWays();
     }
 
     public int free(int spot, int what) throws NoSuchElementException {
@@ -563,9 +564,8 @@ public final class MapPieces {
         return bits;
     }
 
-    private int openSpots() {
-        int bits = positiveSpots();
-        int reducible = reduciblePieces();
+    private int openSpots(int positive, int reducible) {
+        int bits = positive;
         for (int spot = 0; spot < current.spotCount; spot++) {
             if ((piecesHeldBy(spot) & reducible) != 0) {
                 bits &= ~(1 << spot);
@@ -604,7 +604,8 @@ public final class MapPieces {
         static final int WORD = 1;
         static final int NUMBER = 2;
         static final int SEMICOLON = 3;
-        static final int OTHER = 4;
+        private static final int BLANK = 4;
+        private static final int OTHER = 5;
         // above every NUMBER of 4 digits, so that it is out of all ranges too
         static final int TOO_LONG = 10000;
 
@@ -625,21 +626,41 @@ public final class MapPieces {
         }
 
         void advance() {
-            while (next < length && (text[next] == 32 || text[next] == 10)) {
+            while (next < length && kindAt(next) == BLANK) {
                 next++;
             }
             start = next;
             value = 0;
-            if (next >= length) {
-                kind = END;
-            } else if (isLetter(text[next])) {
-                readWord();
-            } else if (isDigit(text[next])) {
-                readNumber();
-            } else {
-                kind = text[next] == ';' ? SEMICOLON : OTHER;
+            kind = kindAt(next);
+            if (kind != WORD && kind != NUMBER) {
+                next = kind == END ? next : next + 1;
+                return;
+            }
+            while (next < length && kindAt(next) == kind) {
+                value = kind == NUMBER ? Math.min(value * 10 + text[next] - '0', TOO_LONG) : 0;
                 next++;
             }
+            // five digits are too many, even where they begin with 0
+            if (kind == NUMBER && next - start > 4) {
+                value = TOO_LONG;
+            }
+        }
+
+        private int kindAt(int at) {
+            if (at >= length) {
+                return END;
+            }
+            byte sign = text[at];
+            if (sign >= 'a' && sign <= 'z') {
+                return WORD;
+            }
+            if (sign >= '0' && sign <= '9') {
+                return NUMBER;
+            }
+            if (sign == ' ' || sign == 10) {
+                return BLANK;
+            }
+            return sign == ';' ? SEMICOLON : OTHER;
         }
 
         boolean isWord(String word) {
@@ -652,33 +673,6 @@ public final class MapPieces {
                 }
             }
             return true;
-        }
-
-        private void readWord() {
-            kind = WORD;
-            while (next < length && isLetter(text[next])) {
-                next++;
-            }
-        }
-
-        private void readNumber() {
-            kind = NUMBER;
-            while (next < length && isDigit(text[next])) {
-                value = Math.min(value * 10 + text[next] - '0', TOO_LONG);
-                next++;
-            }
-            // five digits are too many, even where they begin with 0
-            if (next - start > 4) {
-                value = TOO_LONG;
-            }
-        }
-
-        private static boolean isLetter(byte sign) {
-            return sign >= 'a' && sign <= 'z';
-        }
-
-        private static boolean isDigit(byte sign) {
-            return sign >= '0' && sign <= '9';
         }
     }
 
@@ -701,22 +695,17 @@ public final class MapPieces {
                 if (tokens.kind == Tokens.END) {
                     return draft.isMap() ? 0 : 6;
                 }
-                found = readLine();
+                if (tokens.isWord("piece")) {
+                    found = readPiece();
+                } else if (tokens.isWord("join")) {
+                    found = readJoin();
+                } else if (tokens.isWord("rule")) {
+                    found = readRule();
+                } else {
+                    found = tokens.isWord("spot") ? readSpot() : 1;
+                }
             }
             return found;
-        }
-
-        private int readLine() {
-            if (tokens.isWord("piece")) {
-                return readPiece();
-            }
-            if (tokens.isWord("join")) {
-                return readJoin();
-            }
-            if (tokens.isWord("rule")) {
-                return readRule();
-            }
-            return tokens.isWord("spot") ? readSpot() : 1;
         }
 
         private int readPiece() {
@@ -732,7 +721,7 @@ public final class MapPieces {
             for (int i = 0; i <= MOST_HUB; i++) {
                 tokens.advance();
                 if (tokens.kind == Tokens.SEMICOLON) {
-                    return endPiece(piece);
+                    return piece.build() ? draft.keepPiece() : 2;
                 }
                 found = checkNumber(5, 9);
                 if (found != 0) {
@@ -743,14 +732,6 @@ public final class MapPieces {
                 }
             }
             return 2;
-        }
-
-        private int endPiece(Piece piece) {
-            if (!piece.build()) {
-                return 2;
-            }
-            draft.pieceCount++;
-            return 0;
         }
 
         private int readJoin() {
@@ -803,26 +784,17 @@ public final class MapPieces {
             if (found != 0) {
                 return found;
             }
-            return readBeside();
-        }
-
-        private int readBeside() {
-            Rules rules = draft.rules;
             tokens.advance();
-            boolean isWith = tokens.isWord("with");
-            if (isWith || tokens.isWord("both")) {
-                rules.tell(7, isWith ? Rules.WITH : Rules.BOTH);
-                int found = readRange(5);
+            int beside = tokens.isWord("with") ? Rules.WITH : tokens.isWord("both") ? Rules.BOTH : 0;
+            if (beside != 0) {
+                rules.tell(7, beside);
+                found = readRange(5);
                 if (found != 0) {
                     return found;
                 }
                 tokens.advance();
             }
-            if (tokens.kind != Tokens.SEMICOLON) {
-                return 1;
-            }
-            rules.count++;
-            return 0;
+            return tokens.kind == Tokens.SEMICOLON ? rules.keepRule() : 1;
         }
 
         private int readRange(int at) {
@@ -844,8 +816,8 @@ public final class MapPieces {
             draft.beginSpot();
             for (int i = 0; i <= MOST_NEIGHBOURS; i++) {
                 tokens.advance();
-                if (tokens.kind == Tokens.SEMICOLON) {
-                    return endSpot(i);
+                if (tokens.kind == Tokens.SEMICOLON && i > 0) {
+                    return i < LEAST_NEIGHBOURS ? 2 : draft.keepSpot();
                 }
                 int found = checkNumber(0, MOST_SPOTS - 1);
                 if (found != 0) {
@@ -859,17 +831,6 @@ public final class MapPieces {
                 }
             }
             return 2;
-        }
-
-        private int endSpot(int many) {
-            if (many == 0) {
-                return 1;
-            }
-            if (many < LEAST_NEIGHBOURS) {
-                return 2;
-            }
-            draft.spotCount++;
-            return 0;
         }
 
         private int readNumber(int least, int most) {
@@ -910,6 +871,18 @@ public final class MapPieces {
             pieceCount = 0;
             rules.count = 0;
             spotCount = 0;
+        }
+
+        /** Counts the PIECE that was built; no FAULT. */
+        int keepPiece() {
+            pieceCount++;
+            return 0;
+        }
+
+        /** Counts the SPOT whose NEIGHBOURS were told; no FAULT. */
+        int keepSpot() {
+            spotCount++;
+            return 0;
         }
 
         void beginSpot() {
@@ -992,6 +965,12 @@ public final class MapPieces {
                 tell(what, 0);
             }
             tell(0, amount);
+        }
+
+        /** Counts the RULE that was told; no FAULT. */
+        int keepRule() {
+            count++;
+            return 0;
         }
 
         void tell(int what, int value) {
@@ -1101,7 +1080,7 @@ public final class MapPieces {
             runCounts[at] = (byte) many;
             int switches = many > 2 ? 1 << many - 2 : 1;
             for (int runs = 0; runs < switches && runs < MOST_SWITCHES; runs++) {
-                becomes[at * MOST_SWITCHES + runs] = (byte) find(turned(codes[colouring], pairing, runs << 2));
+                becomes[at * MOST_SWITCHES + runs] = (byte) find(renamed(turned(codes[colouring], pairing, runs << 2)));
             }
         }
 
@@ -1127,12 +1106,8 @@ public final class MapPieces {
             return left == 0 ? code : NONE;
         }
 
-        /** Which COLOURING a code is, when its COLOURS are renamed; NONE, if it is none. */
-        int find(int code) {
-            if (code < 0) {
-                return NONE;
-            }
-            int sought = renamed(code);
+        /** Which COLOURING a renamed code is; NONE, if it is none. */
+        int find(int sought) {
             int from = 0;
             int to = count - 1;
             for (int step = 0; step < MOST_COLOURINGS && from <= to; step++) {
@@ -1149,13 +1124,13 @@ public final class MapPieces {
             return NONE;
         }
 
-        private int renamed(int code) {
+        int renamed(int code) {
             int names = 0;
             int known = 0;
             int next = 0;
             int result = 0;
             for (int place = 0; place < size; place++) {
-                int colour = colourAt(code, place);
+                int colour = code >> 2 * (size - 1 - place) & 3;
                 if ((known >> colour & 1) == 0) {
                     known |= 1 << colour;
                     names |= next << 2 * colour;
@@ -1171,7 +1146,7 @@ public final class MapPieces {
             int run = 0;
             boolean wasOfZero = true;
             for (int place = 0; place < size; place++) {
-                int colour = colourAt(code, place);
+                int colour = code >> 2 * (size - 1 - place) & 3;
                 boolean isOfZero = colour == 0 || colour == pairing + 1;
                 if (isOfZero != wasOfZero) {
                     run++;
@@ -1199,16 +1174,9 @@ public final class MapPieces {
             return result;
         }
 
-        static int pairsOf(int runCount) {
-            return (runCount + 1) / 2;
-        }
-
-        static int fenceCount(int pairs) {
-            return pairs == 1 ? 1 : pairs == 2 ? 2 : 5;
-        }
-
-        private static int[] switchesOf(int pairs) {
-            return pairs == 1 ? SWITCHES_OF_1 : pairs == 2 ? SWITCHES_OF_2 : SWITCHES_OF_3;
+        /** In how many ways FENCES can lie, if there are so many RUNS, half of them of the pair of COLOUR 0. */
+        static int fenceCount(int runCount) {
+            return runCount <= 2 ? 1 : runCount <= 4 ? 2 : 5;
         }
 
         /** Whether by a PAIRING, whatever the FENCES, some SWITCH leads below a level. */
@@ -1222,12 +1190,12 @@ public final class MapPieces {
         }
 
         private boolean leadsBelowBy(int at, byte[] levels, int level) {
-            int pairs = pairsOf(runCounts[at]);
-            int[] switches = switchesOf(pairs);
-            int perFence = 1 << pairs - 1;
-            for (int fence = 0; fence + perFence <= switches.length; fence += perFence) {
+            int many = runCounts[at];
+            int[] switches = many <= 2 ? SWITCHES_OF_1 : many <= 4 ? SWITCHES_OF_2 : SWITCHES_OF_3;
+            int perFence = many <= 2 ? 1 : many <= 4 ? 2 : 4;
+            for (int first = 0; first + perFence <= switches.length; first += perFence) {
                 boolean leads = false;
-                for (int i = fence; i < fence + perFence && !leads; i++) {
+                for (int i = first; i < first + perFence && !leads; i++) {
                     int there = becomes[at * MOST_SWITCHES + switches[i]];
                     leads = there >= 0 && levels[there] >= 0 && levels[there] < level;
                 }
@@ -1416,11 +1384,6 @@ public final class MapPieces {
                     include(joined, colouring);
                 }
             }
-            findLevels(ring);
-            isStudied = true;
-        }
-
-        private void findLevels(Ring ring) {
             rounds = 0;
             for (int level = 1; level <= ring.count && addLevel(ring, level); level++) {
                 rounds = level;
@@ -1430,6 +1393,7 @@ public final class MapPieces {
                     include(bad, colouring);
                 }
             }
+            isStudied = true;
         }
 
         private boolean addLevel(Ring ring, int level) {
@@ -1679,7 +1643,7 @@ public final class MapPieces {
         }
 
         boolean mayPaint(Atlas map, int spot, int colour) {
-            return isColour(colour) && !isPainted(spot) && (having[colour] & map.near[spot]) == 0;
+            return isColour(colour) && (painted() >> spot & 1) == 0 && (having[colour] & map.near[spot]) == 0;
         }
 
         void put(int spot, int colour) {
@@ -1851,8 +1815,16 @@ public final class MapPieces {
             work.copyFrom(paints);
         }
 
-        /** Paints a SPOT and all behind it in the first way; whether there is one. */
-        boolean firstWay(int spot) {
+        /** Paints all in the first way; whether there is one. */
+        boolean paintAll() {
+            return firstWay(0);
+        }
+
+        int allWays() {
+            return countWays(0);
+        }
+
+        private boolean firstWay(int spot) {
             if (spot >= map.spotCount) {
                 return true;
             }
@@ -1871,7 +1843,7 @@ public final class MapPieces {
             return false;
         }
 
-        int countWays(int spot) {
+        private int countWays(int spot) {
             if (spot >= map.spotCount) {
                 return 1;
             }
