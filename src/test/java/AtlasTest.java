@@ -244,6 +244,30 @@ public final class AtlasTest {
         CHECK.due("without", x.rule(0, 6), 0);
     }
 
+    /** What an earlier text told must not be seen behind a later one, or in it while it is read. */
+    private static void nothingIsLeft() {
+        MapPieces x = new MapPieces();
+        for (int i = 0; i < 3; i++) {
+            CHECK.due("a whole map", Check.atlas(x, T), 0);
+        }
+        CHECK.due("one spot less", Check.atlas(x, "spot 1 2 3;spot 0 3 2;spot 0 1 3;"), 6);
+        for (int i = 0; i < 3; i++) {
+            Check.atlas(x, "piece 5 5 5 5;join 6 8;join 0 6;join 0 7;rule 9 from 3 3 to 4 4 both 5 6;");
+            CHECK.due("rounds", x.piece(0, 8), 5);
+            CHECK.due("joins", x.piece(0, 10), 3);
+        }
+        for (int i = 0; i < 2; i++) {
+            Check.atlas(x, "piece 5;rule 9 from 3 3 to 4 4;");
+            int[] due = {5, 0, 5, 6, 10, 10, 5, 5, 0, 0, 0, 0, 0};
+            for (int what = 0; what < due.length; what++) {
+                CHECK.due("anew, piece(0, " + what + ")", x.piece(0, what), due[what]);
+            }
+            CHECK.due("anew, a vertex", x.vertex(0, 0), 0b110010);
+            CHECK.due("anew, joined", x.set(0, 2, 0), 0);
+            CHECK.due("anew, a rule", x.rule(0, 5) + x.rule(0, 6) + x.rule(0, 7), 0);
+        }
+    }
+
     private static void counting() {
         MapPieces x = Check.of("piece 5;piece 6;rule 2 from 3 3 to 5 9;" + Texts.ICOSAHEDRON);
         CHECK.due("pieces", x.count(0), 2);
@@ -271,6 +295,7 @@ public final class AtlasTest {
         faultsOfSpots();
         faultLeavesAll();
         sameTextAnew();
+        nothingIsLeft();
         counting();
         CHECK.end();
     }

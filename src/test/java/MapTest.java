@@ -129,6 +129,38 @@ public final class MapTest {
         CHECK.due("undo is never refused", x.count(15), 0);
     }
 
+    private static long stateOf(MapPieces x) {
+        long state = x.rule(0, 0) * 100 + x.rule(1, 0);
+        for (int spot = 0; spot < 6; spot++) {
+            state = state * 5 + x.spot(spot, 2) + 1;
+        }
+        return state;
+    }
+
+    /** More acts than are kept, of all kinds and at all places: the latest 30 are undone one by one. */
+    private static void undoingAllKinds() {
+        MapPieces x = Check.of("rule 50 from 4 4 to 4 4;rule 50 from 5 5 to 5 5;" + OCTAHEDRON);
+        long[] states = new long[80];
+        int done = 0;
+        for (int i = 0; done < 79; i++) {
+            states[done] = stateOf(x);
+            int spot = i * 5 % 6;
+            int colour = i * 7 % 4;
+            int answer = i % 7 < 3 ? x.paint(spot, colour) : i % 7 == 3 ? x.wash(spot)
+                : i % 7 < 6 ? x.swap(spot, colour) : x.tune(i % 2, 1 + i % 99);
+            done += answer == -1 ? 0 : 1;
+        }
+        states[done] = stateOf(x);
+        CHECK.due("30 are kept", x.count(11), 30);
+        for (int left = 29; left >= 0; left--) {
+            CHECK.due("the state ahead of act " + left, stateOf(x), states[done]);
+            CHECK.due("undo", x.undo(), left);
+            done--;
+        }
+        CHECK.due("the oldest that is kept", stateOf(x), states[49]);
+        CHECK.due("none left", x.undo(), -1);
+    }
+
     private static void solving() {
         MapPieces x = painted();
         CHECK.due("the first way", x.solve(5), 2);
@@ -266,6 +298,7 @@ public final class MapTest {
         swapping();
         tuning();
         undoing();
+        undoingAllKinds();
         solving();
         freeing();
         freeingFar();
