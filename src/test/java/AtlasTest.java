@@ -59,6 +59,15 @@ public final class AtlasTest {
         good("piece 0005;");
         fault("pieces 5;", 1, 0);
         fault("Piece 5;", 1, 0);
+        fault("niece 5;", 1, 0);
+        fault("piecz 5;", 1, 0);
+        fault("piecez 5;", 1, 0);
+        fault("apiece 5;", 1, 0);
+        fault("spor 1 2 3;", 1, 0);
+        fault("rule 1 grom 3 3 to 9 9;", 1, 7);
+        fault("rule 1 from 3 3 go 9 9;", 1, 16);
+        fault("rule 1 from 3 3 to 9 9 moth 3 3;", 1, 23);
+        fault("rule 1 from 3 3 to 9 9 kith 3 3;", 1, 23);
         fault("\tpiece 5;", 1, 0);
         fault("piece 5;\r", 1, 8);
         fault("piece\t5;", 1, 5);
@@ -171,6 +180,8 @@ public final class AtlasTest {
         fault("spot 1 2 3;spot 0 3 2;spot 0 1 3;spot 0 1 2; ", 6, 45);
         fault("spot 1 2 3;spot 0 2 3;spot 0 1 3;spot 0 2 1;", 6, 44);
         fault("spot 1 2 3;spot 0 3 2;spot 0 1 3;spot 0 2 4;", 6, 44);
+        // each begins with the spot that isn't told
+        fault("spot 3 1 2;spot 3 2 0;spot 3 0 1;", 6, 33);
         // all turned over is a map again, also begun elsewhere
         good("spot 3 2 1;spot 2 3 0;spot 3 1 0;spot 0 1 2;");
         String two = T + "spot 5 6 7;spot 4 7 6;spot 4 5 7;spot 4 6 5;";

@@ -122,6 +122,31 @@ public final class ChargeTest {
         CHECK.due("an octahedron", Check.of("rule 5 from 4 4 to 4 4;" + OCTAHEDRON).spot(3, 5), 20);
     }
 
+    // degrees 4, 3, 5, 5, 4, 3: a top (0), the other one (1), three between, and one (5) inside 0, 2, 3
+    private static final String STACKED = "spot 2 5 3 4;spot 4 3 2;spot 5 0 4 1 3;spot 5 2 1 4 0;spot 0 3 1 2;spot 0 2 3;";
+
+    private static void chargesRoundZero() {
+        MapPieces x = Check.of("rule 29 from 3 3 to 4 4;" + STACKED);
+        CHECK.due("1 is left", x.spot(5, 5), 1);
+        CHECK.due("1 is positive", x.count(7) >> 5 & 1, 1);
+        CHECK.due("the most", x.scaled(5, Integer.MAX_VALUE), Integer.MAX_VALUE);
+        CHECK.due("the least", x.scaled(5, Integer.MIN_VALUE), Integer.MIN_VALUE);
+        x.tune(0, 30);
+        CHECK.due("none is left", x.spot(5, 5), 0);
+        CHECK.due("0 isn't positive", x.count(7) >> 5 & 1, 0);
+        x.tune(0, 31);
+        CHECK.due("1 less", x.spot(5, 5), -1);
+        CHECK.due("positive", x.count(6), 4);
+        CHECK.due("open", x.count(7), 0b011101);
+        CHECK.due("by the least but 1", x.scaled(5, Integer.MIN_VALUE + 1), Integer.MAX_VALUE);
+        CHECK.isThrown("by the least", Check.ARITHMETIC, () -> x.scaled(5, Integer.MIN_VALUE));
+        // one 7 beside a 5 takes 9 of 10, and 10 of 10
+        MapPieces y = Check.of("rule 9 from 5 5 to 7 7;");
+        CHECK.due("positive cases", y.cases(5, 1), 8 + 10);
+        y.tune(0, 10);
+        CHECK.due("positive cases", y.cases(5, 1), 8);
+    }
+
     private static void scaling() {
         MapPieces x = Check.of("rule 20 from 4 4 to 5 5;" + TOPS);
         CHECK.due("by 0", x.scaled(0, 0), 0);
@@ -162,6 +187,7 @@ public final class ChargeTest {
         hubs();
         cases();
         spots();
+        chargesRoundZero();
         scaling();
         rules();
         CHECK.end();

@@ -29,8 +29,9 @@ public final class PlanTest {
     private static void breaks() {
         String[] texts = {"foo;", "paint", "paint ;", "paint 0", "paint 0 ;", "paint 0 0", "paint 0 0 0;", "paint 0 00000;",
             "paint 12345 0;", "paint x 0;", "sheet", "sheet 0;", "off 1;", "wash;", "wash 0 0;", "swap 0;", ";", "Paint 0 0;",
-            "paint 0 0,", "5", "12345", "piece 5;"};
-        int[] places = {0, 5, 6, 7, 8, 9, 10, 8, 6, 6, 5, 6, 4, 4, 7, 6, 0, 0, 9, 0, 0, 0};
+            "paint 0 0,", "5", "12345", "piece 5;", "faint 0 0;",
+            "zash 0;", "swaq 0 0;", "cheet;", "ofg;"};
+        int[] places = {0, 5, 6, 7, 8, 9, 10, 8, 6, 6, 5, 6, 4, 4, 7, 6, 0, 0, 9, 0, 0, 0, 0, 0, 0, 0, 0};
         for (int i = 0; i < texts.length; i++) {
             plan(Check.of(T), texts[i], 0, places[i], 0, 1, 0);
             plan(Check.of(T), " paint 3 3; " + texts[i], 1, 12 + places[i], 1, 1, 0);
