@@ -29,19 +29,17 @@ public final class MapPieces {
     private static final int COLOURS = 4;
     private static final int PAIRINGS = 3;
 
-    private final byte[] tape = new byte[MOST_BYTES];
+    private final Tokens tape = new Tokens();
     private int tapeLength = 0;
-    private final Tokens tokens = new Tokens(tape);
     private Atlas current = new Atlas();
     // a text with a FAULT must leave all as it is, so each text is read into this one first
     private Atlas draft = new Atlas();
-    private final Reader reader = new Reader(tokens, draft);
     private final Ring[] rings = new Ring[MOST_PLACES - LEAST_PLACES + 1];
     private final Cases caseBook = new Cases();
     private final State state = new State();
     private final State kept = new State();
     private boolean hasImage = false;
-    private final Search search = new Search(current);
+    private final Search search = new Search();
     private final Plan planner = new Plan();
     private final int[] around = new int[MOST_NEIGHBOURS];
     // of each NOTED: what its CHARGE lacks, and by how much 1 more of the AMOUNT in question mends that
@@ -67,9 +65,9 @@ public final class MapPieces {
 
     public int atlas(int n) throws IllegalArgumentException {
         takeTape(n);
-        int found = reader.read(draft);
+        int found = Reader.read(tape, draft);
         if (found != 0) {
-            faultPlace = tokens.start;
+            faultPlace = tape.start;
             refused[0]++;
             return found;
         }
@@ -326,13 +324,13 @@ public final class MapPieces {
 
     public int solve(int spot) throws NoSuchElementException {
         checkSpot(spot);
-        search.begin(current, state.paints);
-        return search.paintAll() ? search.work.colourAt(spot) : NONE;
+        search.begin(state.paints);
+        return search.paintAll(current) ? search.work.colourAt(spot) : NONE;
     }
 
     public int ways() {
-        search.begin(current, state.paints);
-        return search.allWays();
+        search.begin(state.paints);
+        return search.allWays(current);
     }
 
     public int free(int spot, int what) throws NoSuchElementException {
@@ -340,8 +338,8 @@ public final class MapPieces {
         if (what < 0 || what > 1) {
             throw new NoSuchElementException();
         }
-        search.begin(current, state.paints);
-        search.seekFree(spot);
+        search.begin(state.paints);
+        search.seekFree(current, spot);
         return what == 0 ? search.fewest : search.firstMove;
     }
 
@@ -349,14 +347,14 @@ public final class MapPieces {
         if (what < 0 || what > 1) {
             throw new NoSuchElementException();
         }
-        search.begin(current, state.paints);
-        search.playGame();
+        search.begin(state.paints);
+        search.playGame(current);
         return what == 0 ? search.winner : search.firstMove;
     }
 
     public int plan(int n) throws IllegalArgumentException {
         takeTape(n);
-        planner.run(tokens, current, state.paints);
+        planner.run(tape, current, state.paints);
         return planner.steps;
     }
 
@@ -411,8 +409,8 @@ public final class MapPieces {
         if (n < 0 || n > MOST_YEARS) {
             throw new IllegalArgumentException();
         }
-        search.begin(current, state.paints);
-        int done = search.liveYears(seed, n);
+        search.begin(state.paints);
+        int done = search.liveYears(current, seed, n);
         if (what == 0) {
             return search.work.paintedCount();
         }
@@ -434,7 +432,7 @@ public final class MapPieces {
 
     private void putBytes(int four) {
         for (int shift = 24; shift >= 0 && tapeLength < MOST_BYTES; shift -= 8) {
-            tape[tapeLength] = (byte) (four >> shift);
+            tape.text[tapeLength] = (byte) (four >> shift);
             tapeLength++;
         }
     }
@@ -444,7 +442,7 @@ public final class MapPieces {
             throw new IllegalArgumentException();
         }
         tapeLength = 0;
-        tokens.begin(n);
+        tape.begin(n);
     }
 
     private Piece pieceAt(int piece) {
@@ -598,7 +596,7 @@ public final class MapPieces {
         return true;
     }
 
-    /** A text cut into TOKENS, one at a time. */
+    /** The tape, and its text cut into TOKENS, one at a time. */
     private static final class Tokens {
         static final int END = 0;
         static final int WORD = 1;
@@ -609,19 +607,15 @@ public final class MapPieces {
         // above every NUMBER of 4 digits, so that it is out of all ranges too
         static final int TOO_LONG = 10000;
 
-        private final byte[] text;
+        final byte[] text = new byte[MOST_BYTES];
         private int length = 0;
         private int next = 0;
         int kind = END;
         int start = 0;
         int value = 0;
 
-        Tokens(byte[] bytes) {
-            text = bytes;
-        }
-
         void begin(int n) {
-            length = Math.min(n, text.length);
+            length = Math.min(n, MOST_BYTES);
             next = 0;
         }
 
@@ -678,16 +672,7 @@ public final class MapPieces {
 
     /** Reads the text of an ATLAS; each method answers a FAULT, or 0, and leaves the TOKEN of the FAULT as the last. */
     private static final class Reader {
-        private final Tokens tokens;
-        private Atlas draft;
-
-        Reader(Tokens text, Atlas into) {
-            tokens = text;
-            draft = into;
-        }
-
-        int read(Atlas into) {
-            draft = into;
+        static int read(Tokens tokens, Atlas draft) {
             draft.clear();
             int found = 0;
             for (int line = 0; line <= MOST_BYTES && found == 0; line++) {
@@ -696,23 +681,23 @@ public final class MapPieces {
                     return draft.isMap() ? 0 : 6;
                 }
                 if (tokens.isWord("piece")) {
-                    found = readPiece();
+                    found = readPiece(tokens, draft);
                 } else if (tokens.isWord("join")) {
-                    found = readJoin();
+                    found = readJoin(tokens, draft);
                 } else if (tokens.isWord("rule")) {
-                    found = readRule();
+                    found = readRule(tokens, draft);
                 } else {
-                    found = tokens.isWord("spot") ? readSpot() : 1;
+                    found = tokens.isWord("spot") ? readSpot(tokens, draft) : 1;
                 }
             }
             return found;
         }
 
-        private int readPiece() {
+        private static int readPiece(Tokens tokens, Atlas draft) {
             if (draft.pieceCount >= MOST_PIECES) {
                 return 2;
             }
-            int found = readNumber(LEAST_HUB, MOST_HUB);
+            int found = readNumber(tokens, LEAST_HUB, MOST_HUB);
             if (found != 0) {
                 return found;
             }
@@ -723,7 +708,7 @@ public final class MapPieces {
                 if (tokens.kind == Tokens.SEMICOLON) {
                     return piece.build() ? draft.keepPiece() : 2;
                 }
-                found = checkNumber(5, 9);
+                found = checkNumber(tokens, 5, 9);
                 if (found != 0) {
                     return found;
                 }
@@ -734,7 +719,7 @@ public final class MapPieces {
             return 2;
         }
 
-        private int readJoin() {
+        private static int readJoin(Tokens tokens, Atlas draft) {
             if (draft.pieceCount < 1) {
                 return 3;
             }
@@ -742,10 +727,10 @@ public final class MapPieces {
             if (piece.joinCount >= MOST_JOINS) {
                 return 2;
             }
-            int found = readVertex(piece);
+            int found = readVertex(tokens, piece);
             int first = tokens.value;
             if (found == 0) {
-                found = readVertex(piece);
+                found = readVertex(tokens, piece);
             }
             if (found != 0) {
                 return found;
@@ -753,34 +738,35 @@ public final class MapPieces {
             if (!piece.addJoin(first, tokens.value)) {
                 return 4;
             }
-            return readSemicolon();
+            tokens.advance();
+            return tokens.kind == Tokens.SEMICOLON ? 0 : 1;
         }
 
-        private int readVertex(Piece piece) {
-            int found = readNumber(0, Tokens.TOO_LONG - 1);
+        private static int readVertex(Tokens tokens, Piece piece) {
+            int found = readNumber(tokens, 0, Tokens.TOO_LONG - 1);
             if (found != 0) {
                 return found;
             }
             return tokens.value < piece.vertices ? 0 : 3;
         }
 
-        private int readRule() {
+        private static int readRule(Tokens tokens, Atlas draft) {
             Rules rules = draft.rules;
             if (rules.count >= MOST_RULES) {
                 return 2;
             }
-            int found = readNumber(1, MOST_AMOUNT);
+            int found = readNumber(tokens, 1, MOST_AMOUNT);
             if (found != 0) {
                 return found;
             }
             rules.begin(tokens.value);
             tokens.advance();
-            found = tokens.isWord("from") ? readRange(1) : 1;
+            found = tokens.isWord("from") ? readRange(tokens, rules, 1) : 1;
             if (found != 0) {
                 return found;
             }
             tokens.advance();
-            found = tokens.isWord("to") ? readRange(3) : 1;
+            found = tokens.isWord("to") ? readRange(tokens, rules, 3) : 1;
             if (found != 0) {
                 return found;
             }
@@ -788,7 +774,7 @@ public final class MapPieces {
             int beside = tokens.isWord("with") ? Rules.WITH : tokens.isWord("both") ? Rules.BOTH : 0;
             if (beside != 0) {
                 rules.tell(7, beside);
-                found = readRange(5);
+                found = readRange(tokens, rules, 5);
                 if (found != 0) {
                     return found;
                 }
@@ -797,19 +783,19 @@ public final class MapPieces {
             return tokens.kind == Tokens.SEMICOLON ? rules.keepRule() : 1;
         }
 
-        private int readRange(int at) {
-            int found = readNumber(3, 9);
+        private static int readRange(Tokens tokens, Rules rules, int at) {
+            int found = readNumber(tokens, 3, 9);
             if (found != 0) {
                 return found;
             }
             int low = tokens.value;
-            draft.rules.tell(at, low);
-            found = readNumber(low, 9);
-            draft.rules.tell(at + 1, tokens.value);
+            rules.tell(at, low);
+            found = readNumber(tokens, low, 9);
+            rules.tell(at + 1, tokens.value);
             return found;
         }
 
-        private int readSpot() {
+        private static int readSpot(Tokens tokens, Atlas draft) {
             if (draft.spotCount >= MOST_SPOTS) {
                 return 2;
             }
@@ -819,7 +805,7 @@ public final class MapPieces {
                 if (tokens.kind == Tokens.SEMICOLON && i > 0) {
                     return i < LEAST_NEIGHBOURS ? 2 : draft.keepSpot();
                 }
-                int found = checkNumber(0, MOST_SPOTS - 1);
+                int found = checkNumber(tokens, 0, MOST_SPOTS - 1);
                 if (found != 0) {
                     return found;
                 }
@@ -833,21 +819,16 @@ public final class MapPieces {
             return 2;
         }
 
-        private int readNumber(int least, int most) {
+        private static int readNumber(Tokens tokens, int least, int most) {
             tokens.advance();
-            return checkNumber(least, most);
+            return checkNumber(tokens, least, most);
         }
 
-        private int checkNumber(int least, int most) {
+        private static int checkNumber(Tokens tokens, int least, int most) {
             if (tokens.kind != Tokens.NUMBER) {
                 return 1;
             }
             return tokens.value < least || tokens.value > most ? 2 : 0;
-        }
-
-        private int readSemicolon() {
-            tokens.advance();
-            return tokens.kind == Tokens.SEMICOLON ? 0 : 1;
         }
     }
 
@@ -1800,41 +1781,35 @@ public final class MapPieces {
         private static final int MOST_UNPAINTED = 4;
         private static final int MOST_SWAPS = 2;
 
-        private Atlas map;
         final Paints work = new Paints();
         int fewest = NONE;
         int winner = NONE;
         int firstMove = NONE;
 
-        Search(Atlas atlas) {
-            map = atlas;
-        }
-
-        void begin(Atlas atlas, Paints paints) {
-            map = atlas;
+        void begin(Paints paints) {
             work.copyFrom(paints);
         }
 
         /** Paints all in the first way; whether there is one. */
-        boolean paintAll() {
-            return firstWay(0);
+        boolean paintAll(Atlas map) {
+            return firstWay(map, 0);
         }
 
-        int allWays() {
-            return countWays(0);
+        int allWays(Atlas map) {
+            return countWays(map, 0);
         }
 
-        private boolean firstWay(int spot) {
+        private boolean firstWay(Atlas map, int spot) {
             if (spot >= map.spotCount) {
                 return true;
             }
             if (work.isPainted(spot)) {
-                return firstWay(spot + 1);
+                return firstWay(map, spot + 1);
             }
             for (int colour = 0; colour < COLOURS; colour++) {
                 if ((work.having[colour] & map.near[spot]) == 0) {
                     work.put(spot, colour);
-                    if (firstWay(spot + 1)) {
+                    if (firstWay(map, spot + 1)) {
                         return true;
                     }
                     work.take(spot, colour);
@@ -1843,12 +1818,12 @@ public final class MapPieces {
             return false;
         }
 
-        private int countWays(int spot) {
+        private int countWays(Atlas map, int spot) {
             if (spot >= map.spotCount) {
                 return 1;
             }
             if (work.isPainted(spot)) {
-                return countWays(spot + 1);
+                return countWays(map, spot + 1);
             }
             int sum = 0;
             // COLOURS that no SPOT has are alike, so that one of them is counted for all
@@ -1859,7 +1834,7 @@ public final class MapPieces {
                     sum += ofUnused;
                 } else if ((work.having[colour] & map.near[spot]) == 0) {
                     work.put(spot, colour);
-                    int many = countWays(spot + 1);
+                    int many = countWays(map, spot + 1);
                     work.take(spot, colour);
                     sum += many;
                     ofUnused = isUnused ? many : ofUnused;
@@ -1868,21 +1843,21 @@ public final class MapPieces {
             return sum;
         }
 
-        void seekFree(int spot) {
+        void seekFree(Atlas map, int spot) {
             fewest = NONE;
             firstMove = NONE;
             if (work.isPainted(spot)) {
                 return;
             }
             for (int swaps = 0; swaps <= MOST_SWAPS && fewest == NONE; swaps++) {
-                if (isFreedBy(spot, swaps)) {
+                if (isFreedBy(map, spot, swaps)) {
                     fewest = swaps;
                 }
             }
         }
 
         /** Whether so many SWAPS free a COLOUR; the first of the first row of them is left as first move. */
-        private boolean isFreedBy(int spot, int swaps) {
+        private boolean isFreedBy(Atlas map, int spot, int swaps) {
             if (swaps <= 0) {
                 return work.freeColours(map, spot) != 0;
             }
@@ -1892,7 +1867,7 @@ public final class MapPieces {
                     int bits = work.chainOf(map, one, colour);
                     if (bits != 0) {
                         work.exchange(bits, had, colour);
-                        boolean isFreed = isFreedBy(spot, swaps - 1);
+                        boolean isFreed = isFreedBy(map, spot, swaps - 1);
                         work.exchange(bits, had, colour);
                         if (isFreed) {
                             firstMove = 10 * one + colour;
@@ -1904,17 +1879,17 @@ public final class MapPieces {
             return false;
         }
 
-        void playGame() {
+        void playGame(Atlas map) {
             winner = NONE;
             firstMove = NONE;
             int unpainted = map.spotCount - work.paintedCount();
             if (unpainted <= MOST_UNPAINTED) {
-                winner = isWonByFirst(0, unpainted) ? 1 : 2;
+                winner = isWonByFirst(map, 0, unpainted) ? 1 : 2;
             }
         }
 
         /** Whether the first painter wins behind so many moves; its first move is kept, if this is the beginning. */
-        private boolean isWonByFirst(int moves, int unpainted) {
+        private boolean isWonByFirst(Atlas map, int moves, int unpainted) {
             if (unpainted <= 0) {
                 return true;
             }
@@ -1925,7 +1900,7 @@ public final class MapPieces {
                     if (work.mayPaint(map, spot, colour)) {
                         canGoOn = true;
                         work.put(spot, colour);
-                        boolean isWon = isWonByFirst(moves + 1, unpainted - 1);
+                        boolean isWon = isWonByFirst(map, moves + 1, unpainted - 1);
                         work.take(spot, colour);
                         if (isWon == isTurnOfFirst) {
                             firstMove = moves == 0 ? 10 * spot + colour : firstMove;
@@ -1938,7 +1913,7 @@ public final class MapPieces {
         }
 
         /** Lets years go by on the copy; how often something was done. */
-        int liveYears(int seed, int years) {
+        int liveYears(Atlas map, int seed, int years) {
             int done = 0;
             int now = seed;
             for (int year = 0; year < years && map.spotCount > 0; year++) {
