@@ -1,5 +1,3 @@
-import java.util.NoSuchElementException;
-
 /** What all tests share: a count of wrong answers, texts put on the tape, and names of exceptions. */
 final class Check {
     static final String NO_SUCH = "NoSuchElementException";
@@ -26,35 +24,31 @@ final class Check {
         }
     }
 
-    void isThrown(String what, String want, Call call) {
+    void same(String what, String got, String want) {
         checks++;
-        String got = thrownBy(call);
         if (!got.equals(want)) {
             wrong++;
-            System.out.println(test + ": " + what + " threw " + got + ", due is " + want);
+            System.out.println(test + ": " + what + " answered " + got + ", due is " + want);
         }
+    }
+
+    void isThrown(String what, String want, Call call) {
+        same(what, thrownBy(call), want);
     }
 
     static String thrownBy(Call call) {
         try {
             call.answer();
             return "nothing";
-        } catch (NoSuchElementException | IllegalArgumentException | ArithmeticException e) {
+        } catch (RuntimeException e) {
             return e.getClass().getSimpleName();
         }
     }
 
     /** Puts a text on an empty tape, with blanks behind it up to a whole feed. */
     static void feed(MapPieces pieces, String text) {
-        StringBuilder rest = new StringBuilder(text);
-        while (rest.length() % 20 != 0) {
-            rest.append(' ');
-        }
-        for (int at = 0; at < rest.length(); at += 20) {
-            int[] n = new int[5];
-            for (int i = 0; i < 20; i++) {
-                n[i / 4] = n[i / 4] << 8 | rest.charAt(at + i) & 255;
-            }
+        for (int at = 0; at < text.length(); at += 20) {
+            int[] n = Calls.numbersOf(text, at);
             pieces.feed(n[0], n[1], n[2], n[3], n[4]);
         }
     }

@@ -2,13 +2,9 @@ import java.util.Random;
 
 /** Runs of calls made by seeds, each call's answer compared with the reference's. */
 public final class RandomRunsTest {
-    private static final int RUNS = 600;
-    private static final int CALLS = 300;
-
-    private static final String[] NAMES = {"atlas", "fault", "count", "piece", "vertex", "colour", "named", "level",
-        "extend", "runs", "switched", "set", "sends", "hub", "cases", "spot", "scaled", "rule", "paint", "wash", "swap",
-        "tune", "undo", "chain", "solve", "ways", "free", "play", "plan", "planned", "note", "forget", "meant", "years",
-        "image", "restore", "feed"};
+    private static final int RUNS = 900;
+    // an object is promised for 512 calls alone; a round takes fewer than 70, and the end 17
+    private static final int MOST_CALLS = 512 - 70 - 17;
 
     private final Random random;
     private final Texts texts;
@@ -17,6 +13,7 @@ public final class RandomRunsTest {
     private final Check check;
     private final StringBuilder history = new StringBuilder();
     private boolean failed = false;
+    private int calls = 0;
 
     private RandomRunsTest(long seed, Check check) {
         random = new Random(seed);
@@ -36,100 +33,10 @@ public final class RandomRunsTest {
         return below(4) == 0 ? random.nextInt() : below(n + 4) - 2;
     }
 
-    private static long ofReal(MapPieces x, int op, int[] a) {
-        switch (NAMES[op]) {
-            case "atlas": return x.atlas(a[0]);
-            case "fault": return x.fault();
-            case "count": return x.count(a[0]);
-            case "piece": return x.piece(a[0], a[1]);
-            case "vertex": return x.vertex(a[0], a[1]);
-            case "colour": return x.colour(a[0], a[1], a[2]);
-            case "named": return x.named(a[0], a[1]);
-            case "level": return x.level(a[0], a[1]);
-            case "extend": return x.extend(a[0], a[1], a[2]);
-            case "runs": return x.runs(a[0], a[1], a[2], a[3]);
-            case "switched": return x.switched(a[0], a[1], a[2], a[3]);
-            case "set": return x.set(a[0], a[1], a[2]);
-            case "sends": return x.sends(a[0], a[1], a[2], a[3]);
-            case "hub": return x.hub(a[0], a[1], a[2]);
-            case "cases": return x.cases(a[0], a[1]);
-            case "spot": return x.spot(a[0], a[1]);
-            case "scaled": return x.scaled(a[0], a[1]);
-            case "rule": return x.rule(a[0], a[1]);
-            case "paint": return x.paint(a[0], a[1]);
-            case "wash": return x.wash(a[0]);
-            case "swap": return x.swap(a[0], a[1]);
-            case "tune": return x.tune(a[0], a[1]);
-            case "undo": return x.undo();
-            case "chain": return x.chain(a[0], a[1]);
-            case "solve": return x.solve(a[0]);
-            case "ways": return x.ways();
-            case "free": return x.free(a[0], a[1]);
-            case "play": return x.play(a[0]);
-            case "plan": return x.plan(a[0]);
-            case "planned": return x.planned(a[0]);
-            case "note": return x.note(a[0], a[1]);
-            case "forget": x.forget(); return 0;
-            case "meant": return x.meant(a[0]);
-            case "years": return x.years(a[0], a[1], a[2]);
-            case "image": x.image(); return 0;
-            case "restore": return x.restore() ? 1 : 0;
-            default: return x.feed(a[0], a[1], a[2], a[3], a[4]);
-        }
-    }
-
-    private static long ofReference(Reference x, int op, int[] a) {
-        switch (NAMES[op]) {
-            case "atlas": return x.atlas(a[0]);
-            case "fault": return x.fault();
-            case "count": return x.count(a[0]);
-            case "piece": return x.piece(a[0], a[1]);
-            case "vertex": return x.vertex(a[0], a[1]);
-            case "colour": return x.colour(a[0], a[1], a[2]);
-            case "named": return x.named(a[0], a[1]);
-            case "level": return x.level(a[0], a[1]);
-            case "extend": return x.extend(a[0], a[1], a[2]);
-            case "runs": return x.runs(a[0], a[1], a[2], a[3]);
-            case "switched": return x.switched(a[0], a[1], a[2], a[3]);
-            case "set": return x.set(a[0], a[1], a[2]);
-            case "sends": return x.sends(a[0], a[1], a[2], a[3]);
-            case "hub": return x.hub(a[0], a[1], a[2]);
-            case "cases": return x.cases(a[0], a[1]);
-            case "spot": return x.spot(a[0], a[1]);
-            case "scaled": return x.scaled(a[0], a[1]);
-            case "rule": return x.rule(a[0], a[1]);
-            case "paint": return x.paint(a[0], a[1]);
-            case "wash": return x.wash(a[0]);
-            case "swap": return x.swap(a[0], a[1]);
-            case "tune": return x.tune(a[0], a[1]);
-            case "undo": return x.undo();
-            case "chain": return x.chain(a[0], a[1]);
-            case "solve": return x.solve(a[0]);
-            case "ways": return x.ways();
-            case "free": return x.free(a[0], a[1]);
-            case "play": return x.play(a[0]);
-            case "plan": return x.plan(a[0]);
-            case "planned": return x.planned(a[0]);
-            case "note": return x.note(a[0], a[1]);
-            case "forget": x.forget(); return 0;
-            case "meant": return x.meant(a[0]);
-            case "years": return x.years(a[0], a[1], a[2]);
-            case "image": x.image(); return 0;
-            case "restore": return x.restore() ? 1 : 0;
-            default: return x.feed(a);
-        }
-    }
-
-    private static String answer(Check.Call call) {
-        long[] got = new long[1];
-        String thrown = Check.thrownBy(() -> got[0] = call.answer());
-        return thrown.equals("nothing") ? Long.toString(got[0]) : thrown;
-    }
-
     private void compare(String name, int... args) {
-        int op = java.util.Arrays.asList(NAMES).indexOf(name);
-        String got = answer(() -> ofReal(real, op, args));
-        String want = answer(() -> ofReference(wanted, op, args));
+        calls++;
+        String got = Calls.answer(real, name, args);
+        String want = Calls.answer(() -> wanted.on(name, args));
         String shown = name + java.util.Arrays.toString(args);
         history.append("  ").append(shown).append(" -> ").append(want).append('\n');
         check.due(shown, got.equals(want) ? 1 : 0, 1);
@@ -141,16 +48,8 @@ public final class RandomRunsTest {
 
     private void putText(String text, boolean isAtlas) {
         history.append("  text ").append(text.replace('\n', '~')).append('\n');
-        StringBuilder rest = new StringBuilder(text);
-        while (rest.length() % 20 != 0) {
-            rest.append(' ');
-        }
-        for (int at = 0; at < rest.length(); at += 20) {
-            int[] n = new int[5];
-            for (int i = 0; i < 20; i++) {
-                n[i / 4] = n[i / 4] << 8 | rest.charAt(at + i) & 255;
-            }
-            compare("feed", n);
+        for (int at = 0; at < text.length(); at += 20) {
+            compare("feed", Calls.numbersOf(text, at));
         }
         int n = below(10) == 0 ? text.length() + below(30) - 10 : text.length();
         compare(isAtlas ? "atlas" : "plan", n);
@@ -292,7 +191,7 @@ public final class RandomRunsTest {
 
     private void run() {
         putText(texts.atlas(), true);
-        for (int i = 0; i < CALLS; i++) {
+        while (calls < MOST_CALLS) {
             int kind = below(100);
             if (kind < 2) {
                 putText(texts.atlas(), true);

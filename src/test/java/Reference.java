@@ -652,6 +652,50 @@ final class Reference {
     private int lastOff = NONE;
     private int[] told = {NONE, NONE, NONE, NONE};
 
+    /** A call by its name, as Calls has it of MapPieces. */
+    long on(String name, int... a) {
+        switch (name) {
+            case "atlas": return atlas(a[0]);
+            case "fault": return fault();
+            case "count": return count(a[0]);
+            case "piece": return piece(a[0], a[1]);
+            case "vertex": return vertex(a[0], a[1]);
+            case "colour": return colour(a[0], a[1], a[2]);
+            case "named": return named(a[0], a[1]);
+            case "level": return level(a[0], a[1]);
+            case "extend": return extend(a[0], a[1], a[2]);
+            case "runs": return runs(a[0], a[1], a[2], a[3]);
+            case "switched": return switched(a[0], a[1], a[2], a[3]);
+            case "set": return set(a[0], a[1], a[2]);
+            case "sends": return sends(a[0], a[1], a[2], a[3]);
+            case "hub": return hub(a[0], a[1], a[2]);
+            case "cases": return cases(a[0], a[1]);
+            case "spot": return spot(a[0], a[1]);
+            case "scaled": return scaled(a[0], a[1]);
+            case "rule": return rule(a[0], a[1]);
+            case "paint": return paint(a[0], a[1]);
+            case "wash": return wash(a[0]);
+            case "swap": return swap(a[0], a[1]);
+            case "tune": return tune(a[0], a[1]);
+            case "undo": return undo();
+            case "chain": return chain(a[0], a[1]);
+            case "solve": return solve(a[0]);
+            case "ways": return ways();
+            case "free": return free(a[0], a[1]);
+            case "play": return play(a[0]);
+            case "plan": return plan(a[0]);
+            case "planned": return planned(a[0]);
+            case "note": return note(a[0], a[1]);
+            case "forget": forget(); return 0;
+            case "meant": return meant(a[0]);
+            case "years": return years(a[0], a[1], a[2]);
+            case "image": image(); return 0;
+            case "restore": return restore() ? 1 : 0;
+            case "feed": return feed(a);
+            default: throw new IllegalStateException("no call " + name);
+        }
+    }
+
     int feed(int... numbers) {
         if (tape.length() > 680) {
             return NONE;

@@ -9,6 +9,23 @@ final class Texts {
         + "spot 6 10 9 8 7;";
     static final String TETRAHEDRON = "spot 1 2 3;spot 0 3 2;spot 0 1 3;spot 0 2 1;";
 
+    /** Spots 0 and 1 over a row of n round them: all degrees 4, but both of n. */
+    static String tops(int n) {
+        StringBuilder text = new StringBuilder("spot");
+        for (int i = 2; i < n + 2; i++) {
+            text.append(' ').append(i);
+        }
+        text.append(";spot");
+        for (int i = n + 1; i > 1; i--) {
+            text.append(' ').append(i);
+        }
+        text.append(';');
+        for (int i = 0; i < n; i++) {
+            text.append("spot 0 ").append(2 + (i + n - 1) % n).append(" 1 ").append(2 + (i + 1) % n).append(';');
+        }
+        return text.toString();
+    }
+
     private final Random random;
 
     Texts(Random random) {
