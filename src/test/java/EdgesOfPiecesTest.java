@@ -26,13 +26,8 @@ public final class EdgesOfPiecesTest {
                 String text = "piece 5;".repeat(many);
                 run("no such PIECE, behind the last one", "atlas: " + text + " = 0", call.replace("#", "" + many) + " = NoSuch");
                 if (many > 0) {
-                    MapPieces x = Check.of(text);
-                    String[] words = call.replace("#", "" + (many - 1)).split(" ");
-                    int[] args = new int[words.length - 1];
-                    for (int i = 0; i < args.length; i++) {
-                        args[i] = Integer.parseInt(words[i + 1]);
-                    }
-                    CHECK.due("the last PIECE: " + call, Calls.answer(x, words[0], args).equals(Check.NO_SUCH) ? 1 : 0, 0);
+                    String answer = Script.answer(Check.of(text), call.replace("#", "" + (many - 1)));
+                    CHECK.due("the last PIECE: " + call, answer.equals(Check.NO_SUCH) ? 1 : 0, 0);
                 }
             }
             run("no PIECES", call.replace("#", "0") + " = NoSuch");
@@ -81,13 +76,8 @@ public final class EdgesOfPiecesTest {
                     run("no such COLOURING, as everywhere", FOUR, told.replace("#", far) + " = NoSuch");
                 }
                 run("no such COLOURING, behind the last one", FOUR, told.replace("#", "" + COLOURINGS[piece]) + " = NoSuch");
-                MapPieces x = four();
-                String[] words = told.replace("#", "" + (COLOURINGS[piece] - 1)).split(" ");
-                int[] args = new int[words.length - 1];
-                for (int i = 0; i < args.length; i++) {
-                    args[i] = Integer.parseInt(words[i + 1]);
-                }
-                CHECK.due("the last COLOURING: " + told, Calls.answer(x, words[0], args).equals(Check.NO_SUCH) ? 1 : 0, 0);
+                String answer = Script.answer(four(), told.replace("#", "" + (COLOURINGS[piece] - 1)));
+                CHECK.due("the last COLOURING: " + told, answer.equals(Check.NO_SUCH) ? 1 : 0, 0);
             }
         }
     }

@@ -154,6 +154,41 @@ public final class EdgesOfTextsTest {
             "atlas: ?? = 1", "fault = 0", "count 14 = 2");
     }
 
+    /** What texts ahead told, whole or as far as a FAULT, can't be seen in what a later one tells. */
+    private static void nothingIsLeft() {
+        String[] good = {"", RICH, T, "piece 5;join 0 5;join 1 5;rule 3 from 3 3 to 4 4 both 5 6;",
+            "piece 7;join 7 0;piece 5 5 5 5;join 6 0;join 6 8;join 9 5;rule 9 from 5 6 to 7 8 with 3 3;rule 1 from 3 9 to 3 9;",
+            "rule 8 from 5 6 to 7 8;rule 8 from 3 3 to 3 3;spot 2 3 1;spot 2 0 3;spot 1 3 0;spot 1 0 2;piece 5 5 5 5 5 5;"};
+        String[] cut = {"?", "piece 5;join 0 5;?", "piece 6 5 5 5;join 7 8;join 7 1;rule 7 from 9 9 to 9 9 both 9 9;spot 9 8 7;spot 1 0",
+            "rule 7 from 9 9 to 9 9 both 9", T + "spot 0 1", "spot 1 2 3;spot 0 3 2;"};
+        for (int a = 0; a < 6; a++) {
+            for (int b = 0; b < 6; b++) {
+                for (int c = 0; c < 6; c++) {
+                    sameAsAlone(good[a], good[b], good[c]);
+                    sameAsAlone(good[c], cut[a], good[b], cut[b], good[c]);
+                }
+            }
+        }
+    }
+
+    private static void sameAsAlone(String... texts) {
+        String last = texts[texts.length - 1];
+        MapPieces x = new MapPieces();
+        for (String text : texts) {
+            Check.atlas(x, text);
+            // what is found out just when it is asked for is asked for, too
+            x.count(7);
+            x.cases(5, 3);
+        }
+        CHECK.due("all anew: no FAULT of " + last, x.fault(), -1);
+        MapPieces alone = Check.of(last);
+        for (String row : View.rows(alone.count(0), alone.count(1), alone.count(2))) {
+            if (!row.equals("count 14")) {
+                CHECK.same("all anew: " + row + " of " + last, Script.answer(x, row), Script.answer(alone, row));
+            }
+        }
+    }
+
     // ---- promise 5 ----
 
     private static void counting() {
@@ -482,6 +517,7 @@ public final class EdgesOfTextsTest {
         taking();
         allStays();
         allAnew();
+        nothingIsLeft();
         counting();
         atMost();
         tokens();

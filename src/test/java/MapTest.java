@@ -137,28 +137,35 @@ public final class MapTest {
         return state;
     }
 
-    /** More acts than are kept, of all kinds and at all places: the latest 30 are undone one by one. */
-    private static void undoingAllKinds() {
+    /** A new object on which so many acts were done, of all kinds and at all places. */
+    private static MapPieces behind(int acts) {
         MapPieces x = Check.of("rule 50 from 4 4 to 4 4;rule 50 from 5 5 to 5 5;" + OCTAHEDRON);
-        long[] states = new long[80];
         int done = 0;
-        for (int i = 0; done < 79; i++) {
-            states[done] = stateOf(x);
+        for (int i = 0; done < acts; i++) {
             int spot = i * 5 % 6;
             int colour = i * 7 % 4;
             int answer = i % 7 < 3 ? x.paint(spot, colour) : i % 7 == 3 ? x.wash(spot)
                 : i % 7 < 6 ? x.swap(spot, colour) : x.tune(i % 2, 1 + i % 99);
             done += answer == -1 ? 0 : 1;
         }
-        states[done] = stateOf(x);
-        CHECK.due("30 are kept", x.count(11), 30);
-        for (int left = 29; left >= 0; left--) {
-            CHECK.due("the state ahead of act " + left, stateOf(x), states[done]);
-            CHECK.due("undo", x.undo(), left);
-            done--;
+        return x;
+    }
+
+    /** More acts than are kept: the latest 30 are undone one by one. */
+    private static void undoingAllKinds() {
+        int acts = 79;
+        for (int undone = 0; undone <= 30; undone++) {
+            MapPieces x = behind(acts);
+            CHECK.due("30 are kept", x.count(11), 30);
+            for (int left = 29; left >= 30 - undone; left--) {
+                CHECK.due("undo", x.undo(), left);
+            }
+            CHECK.due("the state with " + undone + " undone", stateOf(x), stateOf(behind(acts - undone)));
+            if (undone == 30) {
+                CHECK.due("none left", x.undo(), -1);
+                CHECK.due("the oldest that is kept", stateOf(x), stateOf(behind(49)));
+            }
         }
-        CHECK.due("the oldest that is kept", stateOf(x), states[49]);
-        CHECK.due("none left", x.undo(), -1);
     }
 
     private static void solving() {

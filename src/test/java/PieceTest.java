@@ -90,7 +90,8 @@ public final class PieceTest {
         CHECK.due("the first of seven", digits(x, 1, 0), 101012);
         CHECK.due("the last of seven", digits(x, 1, 90), 123232);
         for (int i = 1; i < 91; i++) {
-            CHECK.due("in order", digits(x, 1, i - 1) < digits(x, 1, i) ? 1 : 0, 1);
+            MapPieces fresh = Check.of("piece 5;piece 7;");
+            CHECK.due("in order", digits(fresh, 1, i - 1) < digits(fresh, 1, i) ? 1 : 0, 1);
         }
         CHECK.isThrown("colour(0, 10, 0)", Check.NO_SUCH, () -> x.colour(0, 10, 0));
         CHECK.isThrown("colour(0, -1, 0)", Check.NO_SUCH, () -> x.colour(0, -1, 0));
@@ -170,13 +171,14 @@ public final class PieceTest {
             CHECK.due("010101 at " + i, x.extend(0, x.named(0, 10101), i), -1);
         }
         for (int colouring = 0; colouring < 10; colouring++) {
+            MapPieces wheel = Check.of("piece 5 5 5 5;piece 5 5 5 5 5 5;");
             for (int i = 0; i < 6; i++) {
-                CHECK.due("the wheel's first way", x.extend(1, colouring, i), firstByTrying(x, 1, colouring, i));
+                CHECK.due("the wheel's first way", wheel.extend(1, colouring, i), firstByTrying(wheel, 1, colouring, i));
             }
         }
         for (int piece = 0; piece < 2; piece++) {
             for (int i = 0; i < x.piece(piece, 5); i++) {
-                properExtension(x, piece, i);
+                properExtension(Check.of("piece 5 5 5 5;piece 5 5 5 5 5 5;"), piece, i);
             }
         }
         CHECK.isThrown("extend(0, 0, 4)", Check.NO_SUCH, () -> x.extend(0, 0, 4));
@@ -190,12 +192,17 @@ public final class PieceTest {
         int ring = x.piece(piece, 2);
         int all = x.piece(piece, 3);
         int[] colours = new int[all];
+        int[] near = new int[all];
+        for (int v = 0; v < all; v++) {
+            near[v] = x.vertex(piece, v);
+            colours[v] = v < ring ? x.colour(piece, colouring, v) : 0;
+        }
         for (int code = 0; code < 1 << 2 * (all - ring); code++) {
             boolean fits = true;
             for (int v = 0; v < all && fits; v++) {
-                colours[v] = v < ring ? x.colour(piece, colouring, v) : code >> 2 * (all - 1 - v) & 3;
+                colours[v] = v < ring ? colours[v] : code >> 2 * (all - 1 - v) & 3;
                 for (int u = 0; u < v; u++) {
-                    fits &= (x.vertex(piece, v) >> u & 1) == 0 || colours[u] != colours[v];
+                    fits &= (near[v] >> u & 1) == 0 || colours[u] != colours[v];
                 }
             }
             if (fits) {

@@ -3,9 +3,9 @@ import java.lang.management.ManagementFactory;
 /** How much room calls take: rows are made once and used again, so that 512 calls of any kind need hardly any. */
 public final class RoomTest {
     private static final Check CHECK = new Check("RoomTest");
-    private static final int CALLS = 500;
+    private static final int CALLS = 150;
     // in bytes; far below 7.3 million elements
-    private static final long MOST_OF_A_RUN = 100_000;
+    private static final long MOST_OF_A_RUN = 30_000;
 
     private static final com.sun.management.ThreadMXBean BEAN =
         (com.sun.management.ThreadMXBean) ManagementFactory.getThreadMXBean();

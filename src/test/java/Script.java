@@ -81,12 +81,17 @@ final class Script {
             calls++;
             return taker.equals("tape") ? Integer.toString(length) : Calls.answer(x, taker, text.length());
         }
+        calls++;
+        return answer(x, call);
+    }
+
+    /** The answer of a call told by its words. */
+    static String answer(MapPieces x, String call) {
         String[] words = call.split(" ");
         int[] args = new int[words.length - 1];
         for (int i = 0; i < args.length; i++) {
             args[i] = number(words[i + 1]);
         }
-        calls++;
         return Calls.answer(x, words[0], args);
     }
 
