@@ -139,6 +139,16 @@ public final class EdgesOfMapTest {
         }
         rows.addAll(List.of("undo = -1", "rule 0 0 = 7", "spot 3 2 = 3"));
         run("at most 30 are kept, of all kinds together", rows.toArray(new String[0]));
+        List<String> places = new ArrayList<>(List.of(T));
+        for (int i = 0; i < 34; i++) {
+            places.add(i % 2 == 0 ? "paint " + i / 2 % 4 + " 0 = 1" : "wash " + i / 2 % 4 + " = 0");
+        }
+        for (int i = 33; i >= 4; i--) {
+            places.add("undo = " + (i - 4));
+            places.add("spot " + i / 2 % 4 + " 2 = " + (i % 2 == 0 ? -1 : 0));
+            places.add("count 3 = " + i % 2);
+        }
+        run("at most 30 are kept, of all SPOTS", places.toArray(new String[0]));
     }
 
     private static void chains() {

@@ -275,6 +275,8 @@ public final class EdgesOfTextsTest {
         }
         fault("a word is the longest row", "piecerule", 1, 0);
         fault("a word that isn't whole", "piec 5;", 1, 0);
+        fault("a word of other letters, the first", "xiece 5;", 1, 0);
+        fault("a word of other letters, the last", "piecx 5;", 1, 0);
         fault("blanks part words", "pie ce 5;", 1, 0);
         good("no blanks are needed", "piece5;join0 5;rule7from5 6to7 8with3 4;", "piece5\n5\n5\n5;");
         good("blanks count for nothing", " \n piece \n\n 5 \n ; \n", " ", "\n", "");
@@ -480,6 +482,9 @@ public final class EdgesOfTextsTest {
         fault("a NEIGHBOUR without a 'spot' of its own", "spot 1 2 3;spot 0 3 2;spot 0 1 3;", 6, 33);
         fault("a NEIGHBOUR without a 'spot' of its own, all else is right",
             T.substring(0, 11) + "spot 0 3 2;spot 0 1 3;spot 0 2 1;".replace("1", "11"), 6, 46);
+        fault("a NEIGHBOUR without a 'spot' of its own, the first of each", "spot 3 1 2;spot 3 2 0;spot 3 0 1;", 6, 33);
+        run("a NEIGHBOUR without a 'spot' of its own, though earlier texts had one", "atlas: " + T + " = 0", "atlas: " + T + " = 0",
+            "atlas: " + T.substring(0, 33) + " = 6", "atlas: " + T.substring(0, 33) + " = 6", "count 2 = 4");
         fault("w of v isn't there", "spot 1 2 3;spot 0 3 2;spot 0 1 3;spot 0 2 4;spot 0 2 1;", 6, 55);
         fault("w of v isn't followed by u: one turned over", "spot 1 2 3;spot 0 2 3;spot 0 1 3;spot 0 2 1;", 6, 44);
         for (int turned = 0; turned < 4; turned++) {
