@@ -248,10 +248,11 @@ public final class MapPieces {
     public int scaled(int spot, int factor) throws NoSuchElementException, ArithmeticException {
         checkSpot(spot);
         long product = (long) spotCharge(spot) * factor;
-        if (product < Integer.MIN_VALUE || product > Integer.MAX_VALUE) {
+        int held = (int) product;
+        if (held != product) {
             throw new ArithmeticException();
         }
-        return (int) product;
+        return held;
     }
 
     public int rule(int rule, int what) throws NoSuchElementException {
@@ -1475,12 +1476,12 @@ public final class MapPieces {
             int positive = 0;
             int covered = 0;
             int least = NONE;
-            int most = Integer.MIN_VALUE;
+            int most = 0;
             for (int i = 0; i < many; i++) {
                 int digits = rows[(hub - LEAST_HUB) * MOST_CASES + i];
                 takeDigits(digits, hub);
                 int charge = atlas.rules.behind(hub, row, amounts);
-                most = Math.max(most, charge);
+                most = i == 0 ? charge : Math.max(most, charge);
                 if (charge > 0) {
                     positive++;
                     if ((atlas.heldPieces(hub, row) & reducible) != 0) {

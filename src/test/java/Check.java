@@ -1,3 +1,8 @@
+import java.io.IOException;
+import java.nio.file.Files;
+import java.nio.file.Path;
+import java.util.stream.Stream;
+
 /** What all tests share: a count of wrong answers, texts put on the tape, and names of exceptions. */
 final class Check {
     static final String NO_SUCH = "NoSuchElementException";
@@ -70,6 +75,18 @@ final class Check {
             throw new IllegalStateException("fault " + fault + " at " + pieces.fault() + " in " + text);
         }
         return pieces;
+    }
+
+    /** Deletes a file, or a directory with all that is in it. */
+    static void clear(Path path) throws IOException {
+        if (Files.isDirectory(path)) {
+            try (Stream<Path> inside = Files.list(path)) {
+                for (Path one : inside.toList()) {
+                    clear(one);
+                }
+            }
+        }
+        Files.delete(path);
     }
 
     void end() {
